@@ -163,7 +163,24 @@ public final class RandomRunsTest {
         call("end", fits.length());
     }
 
+    /** Turns a field's values round: many rows are needed for that. */
+    private String turned(String f) {
+        int by = 1 + below(3);
+        StringBuilder s = new StringBuilder("(");
+        for (int i = 0; i < 4; i++) {
+            s.append(i == 0 ? "" : "+").append(f).append("=").append(i).append(";").append(f).append(":");
+            s.append((i + by) % 4);
+        }
+        return s.append(")").toString();
+    }
+
     private void aText() throws Exception {
+        if (chance(10)) {
+            String text = turned("a") + (chance(60) ? ";" + turned("b") : "") + (chance(20) ? ";" + turned("c") : "");
+            putText(text + (chance(50) ? ";at:" + below(8) : "") + (chance(10) ? "*" : ""));
+            call("wish", below(4));
+            return;
+        }
         String text = chance(8) ? text(0) + ";" + text(0) + "+" + text(0) + ";" + text(0) : text(0);
         if (chance(5)) {
             text = "(".repeat(1 + below(11)) + text;
@@ -208,9 +225,40 @@ public final class RandomRunsTest {
         call("row", version, box, aPattern(told), aPattern(set), to);
     }
 
+    /** Counts c, b, a up, a step each, so that ways get long; then goes on. */
+    private void aCounter(int version, int box, int to) throws Exception {
+        for (int v = 0; v < 3; v++) {
+            call("row", version, box, 1 + v, 2 + v, box);
+        }
+        for (int v = 0; v < 3; v++) {
+            call("row", version, box, 5 * (1 + v) + 4, 5 * (2 + v) + 1, box);
+        }
+        for (int v = 0; v < 3; v++) {
+            call("row", version, box, 25 * (1 + v) + 24, 25 * (2 + v) + 6, box);
+        }
+        call("row", version, box, 124, 31, to);
+    }
+
+    private void fillTables(int told, int set) throws Exception {
+        for (int box = 0; box < boxes; box++) {
+            if (chance(10)) {
+                aCounter(below(2), box, chance(50) ? 8 : below(boxes));
+            }
+            for (int n = below(5); n > 0; n--) {
+                aRow(below(2), box, told, set);
+            }
+            if (chance(60)) {
+                call("row", 0, box, 0, 0, chance(40) ? 8 : below(boxes));
+            }
+        }
+    }
+
     private void tables() throws Exception {
         int told = 10 + below(70);
         int set = below(60);
+        if (chance(80)) {
+            fillTables(told, set);
+        }
         while (calls < 250) {
             switch (below(17)) {
                 case 0, 1, 2, 3 -> aRow(some(2), aBox(), told, set);
@@ -259,21 +307,35 @@ public final class RandomRunsTest {
 
     // ---- writing over
 
-    private void rollouts() throws Exception {
-        boxes = 2 + below(5);
-        int told = below(30);
-        int set = below(15);
-        for (int box = 0; box < boxes; box++) {
-            for (int version = 0; version < 2; version++) {
-                for (int n = below(3); n >= 0; n--) {
-                    int to = chance(55) ? Math.min(box + 1 + below(3), 8) : chance(60) ? 8 : below(boxes);
-                    call("row", version, box, aPattern(told), aPattern(set), to);
-                }
-            }
-            if (chance(40)) {
-                call("make", 0, 0, box);
-            }
+    /** A chain of boxes in some order, with a box that sends a packet away now and then. */
+    private void aChain(int version, int told, int set) throws Exception {
+        List<Integer> chain = new ArrayList<>();
+        for (int box = 1; box < boxes; box++) {
+            chain.add(box);
         }
+        java.util.Collections.shuffle(chain, random);
+        int length = below(boxes);
+        int at = 0;
+        for (int i = 0; i < length; i++) {
+            if (chance(told)) {
+                call("row", version, at, aPattern(40), aPattern(set), chance(50) ? 8 : chain.get(below(chain.size())));
+            }
+            call("row", version, at, 0, chance(set) ? aPattern(30) : 0, chain.get(i));
+            at = chain.get(i);
+        }
+        call("row", version, at, 0, 0, 8);
+    }
+
+    private void rollouts() throws Exception {
+        boxes = 3 + below(6);
+        int told = chance(50) ? 0 : below(40);
+        int set = chance(50) ? 0 : below(15);
+        if (chance(5)) {
+            aCounter(below(2), 0, 1);
+            aCounter(below(2), 1, 8);
+        }
+        aChain(0, told, set);
+        aChain(1, told, set);
         call("entries", chance(70) ? 1 + below(3) : some(256));
         while (calls < 160) {
             switch (below(12)) {
