@@ -52,7 +52,9 @@ public final class HouseTest {
         due("the least", x.breaks(1), 16);
         Checks.wish(x, 1, "0");
         due("none made of any", x.breaks(2), -1);
-        due("wish 3", x.breaks(3), -2);
+        Checks.wish(x, 1, "at=0;a=0;b=0;c=0");
+        due("packet 0", x.breaks(3), 0);
+        due("wish 4", x.breaks(4), -2);
         due("wish -1", x.breaks(-1), -2);
     }
 
@@ -67,7 +69,9 @@ public final class HouseTest {
         due("none of which both make some", x.quarrel(0, 2), -1);
         due("both make some", x.quarrel(1, 2), 48);
         due("itself", x.quarrel(1, 1), -1);
-        due("wish 3", x.quarrel(0, 3), -2);
+        Checks.wish(x, 1, "at=0;a=0;b=0;c=0;a:1");
+        due("packet 0", x.quarrel(2, 3), 0);
+        due("wish 4", x.quarrel(0, 4), -2);
         due("wish -1", x.quarrel(-1, 0), -2);
     }
 

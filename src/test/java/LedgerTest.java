@@ -106,6 +106,19 @@ public final class LedgerTest {
         x.needs(2, 0, 2);
         x.worth(1, 0, 2);
         due("of as much worth the fewest wishes", x.kept(0), 4);
+        x = withWishes(4);
+        for (int i = 0; i < 4; i++) {
+            x.worth(0, i, 1 + i);
+            x.needs(i, 7, 1);
+            x.needs(i, i == 0 || i == 3 ? 1 : 2, 1);
+            x.needs(i, 0, 1 + i);
+        }
+        x.worth(1, 7, 2);
+        x.worth(1, 1, 2);
+        x.worth(1, 2, 2);
+        x.worth(1, 0, 5);
+        due("of as many wishes the least number", x.kept(0), 6);
+        due("worth", x.kept(1), 5);
         due("what 2", x.kept(2), -1);
         due("what -1", x.kept(-1), -1);
     }

@@ -56,6 +56,15 @@ public final class RolloutTest {
         x.row(0, 2, 0, 0, 8);
         dueOrder(x, 2, 3, 4, 0, 1);
         due("nothing is written by that", x.count(5), 5);
+        // Packet 0 alone is half old and half new.
+        x = new WishWays();
+        x.row(0, 0, Checks.match(0, 0, 0), 0, 2);
+        x.row(1, 0, Checks.match(0, 0, 0), 0, 3);
+        x.row(0, 2, 0, 0, 8);
+        x.row(1, 2, 0, 0, 8);
+        x.row(1, 3, 0, 0, 8);
+        x.entries(1);
+        dueOrder(x, 3, 0);
     }
 
     private static void noOrder() {
@@ -126,6 +135,17 @@ public final class RolloutTest {
         for (int n : new int[] {0, 3, -1, 64}) {
             due("n " + n, x.worst(n), -1);
         }
+        y = new WishWays();
+        y.row(0, 1, 0, 0, 0);
+        y.row(0, 0, 0, 0, 8);
+        due("all 512 packets", y.worst(1), 64);
+        y.entries(2);
+        due("one of them ends as packet 0", y.worst(1), 64);
+        for (int box = 2; box < 8; box++) {
+            y.row(0, box, 0, 0, 8);
+        }
+        y.entries(255);
+        due("all 512 packets end", y.worst(1), 64);
         CHECKS.promise(27);
         due("NONE changes nothing", x.falls(1), 2);
         due("ahead of worst", new WishWays().falls(0), -1);
@@ -254,6 +274,17 @@ public final class RolloutTest {
         x.write(1, 5);
         due("comes from 0 in 4, is lost in 1", x.neither(4, -1), 64);
         due("at 1 itself it is as by NEW ones", x.neither(5, -1), 64);
+        WishWays y = new WishWays();
+        chain(y, 0, 0, 1);
+        chain(y, 1, 0, 2);
+        y.row(1, 1, 0, Checks.match(3, -1, -1), 2);
+        y.write(1, 4);
+        y.write(2, 5);
+        y.entries(1);
+        due("box 0 stays old in tick 999", y.neither(3, -1), 0);
+        due("lost in no tick", y.neither(4, -1), 0);
+        y.write(2, 6);
+        due("lost at 2 in tick 5", y.neither(3, -1), 64);
         due("tick 1000", x.neither(1000, -1), -1);
         due("tick -1", x.neither(-1, -1), -1);
     }
@@ -311,6 +342,35 @@ public final class RolloutTest {
         return x;
     }
 
+    private static int roundGap(int fields, int entries) {
+        WishWays x = new WishWays();
+        TableTest.countThroughAll(x, 0);
+        TableTest.countThroughAll(x, 1);
+        for (int version = 0; version < 2; version++) {
+            // The last row of box 6 goes on with these fields at box 7, box 5 begins at 6 with the least.
+            for (int box = 0; box < 6; box++) {
+                x.erase(version, box);
+            }
+            int[][] rows = new int[9][3];
+            for (int k = 0; k < 9; k++) {
+                for (int what = 0; what < 3; what++) {
+                    rows[k][what] = x.rows(version, 6, k, what);
+                }
+            }
+            x.erase(version, 6);
+            for (int[] row : rows) {
+                x.row(version, 6, row[0], row[1], row[2]);
+            }
+            x.row(version, 6, 124, Checks.match(fields / 16, fields / 4 % 4, fields % 4), 7);
+        }
+        x.row(0, 5, 0, Checks.match(0, 0, 0), 6);
+        x.row(1, 5, 0, 0, 8);
+        x.row(1, 0, 0, 0, 8);
+        x.entries(entries);
+        dueOrder(x, 0, 5);
+        return x.gap();
+    }
+
     private static void gapsOfLater() {
         CHECKS.promise(44);
         // Written are 2 in 0, 0 in g and 1 in 2 * g; the last one that goes the old way is at 1 in g + 8.
@@ -333,5 +393,22 @@ public final class RolloutTest {
         due("seen as a loop", x.gap(), -2);
         x.entries(128);
         due("short ways", x.gap(), 1);
+        // Box 5 sends packets round 6 and 7, NEW no more; box 0 is written ahead of it and has nothing to do with it.
+        due("100 places", roundGap(29, 32), 1);
+        due("101 places", roundGap(28, 32), -2);
+        due("64 and 36 places, not written", roundGap(28, 64), 1);
+        due("64 and 37 places, not written", roundGap(27, 64), -2);
+        // Box 0 is not in the order: it stays old.
+        x = new WishWays();
+        chain(x, 0, 0, 1);
+        chain(x, 1, 0, 2);
+        x.erase(1, 0);
+        x.row(1, 0, 0, 0, 1);
+        x.row(1, 1, 0, 0, 8);
+        dueOrder(x, 2);
+        x.erase(1, 0);
+        x.erase(1, 1);
+        x.row(1, 2, 0, 0, 8);
+        due("by tables as they are, box 0 old", x.gap(), 1);
     }
 }

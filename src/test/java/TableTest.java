@@ -135,6 +135,9 @@ public final class TableTest {
         due("NEW there", x.ends(16, 8), -3);
         due("NEW elsewhere", x.ends(16, 247), -2);
         due("OLD", x.ends(16, 0), 192 + 16 + 8 + 3);
+        x.row(0, 6, 0, 0, 0);
+        x.line(6, 0, true);
+        due("a fallen line to place 0", x.ends(384, 0), -2);
         due("packet 512", x.ends(512, 0), -1);
         due("packet -1", x.ends(-1, 0), -1);
         due("boxes 256", x.ends(0, 256), -1);
@@ -208,6 +211,12 @@ public final class TableTest {
         due("NEW elsewhere", x.shown(0, 252), -1);
         x.line(0, 1, true);
         due("none for a lost one", x.shown(0, 0), 16);
+        WishWays y = new WishWays();
+        Checks.wish(y, 0, "at=0;a=0;b=0;c=0");
+        Checks.wish(y, 0, "at:7;a:0;b:0;c:0");
+        due("packet 0", y.shown(0, 0), 0);
+        countThroughAll(y, 0);
+        due("by the longest way", y.shown(1, 0), -1);
         due("wish 4", x.shown(4, 0), -2);
         due("wish -1", x.shown(-1, 0), -2);
         due("boxes 256", x.shown(0, 256), -2);
@@ -262,7 +271,13 @@ public final class TableTest {
             x.row(0, 7, Checks.match(i / 4, i % 4, -1), 0, i % 8);
         }
         due("none can be missed", x.packed(0, 7), 4095);
-        x.line(1, 2, true);
+        x.row(0, 6, Checks.match(0, 0, 0), 0, 5);
+        due("a row for one packet", x.packed(0, 6), 1);
+        x.row(0, 6, 0, 0, 8);
+        due("it guards that", x.packed(0, 6), 3);
+        x.row(0, 5, Checks.match(0, 0, 0), 0, 9);
+        x.row(0, 5, Checks.match(0, 0, -1), 0, 8);
+        due("lost, ahead of another", x.packed(0, 5), 3);
         due("the table stays", x.count(2), 13);
         due("box 8", x.packed(0, 8), -1);
         due("version 2", x.packed(2, 0), -1);
@@ -291,7 +306,18 @@ public final class TableTest {
         dueRow(x, 1, 2, 7, Checks.match(2, 1, -1), 0, 9);
         dueRow(x, 1, 2, 8, Checks.match(2, 3, -1), 0, 9);
         dueRow(x, 1, 2, 9, Checks.match(2, 2, 2), Checks.match(0, -1, -1), 8);
-        x.erase(1, 2);
+        Checks.wish(x, 0, "a=0;at:7");
+        due("none of some and place 7 of others", x.make(1, 0, 0), 4);
+        dueRow(x, 0, 0, 0, 25, 0, 7);
+        Checks.wish(x, 0, "a=0;at:7+a=1;at:6+a=2;at:7+a=3;at:7");
+        due("places unlike", x.make(2, 0, 0), 4);
+        dueRow(x, 0, 0, 1, 50, 0, 6);
+        Checks.wish(x, 0, "!a=0;!c=2");
+        due("of as many by numbers", x.make(3, 0, 0), 11);
+        dueRow(x, 0, 0, 0, 3, 0, 9);
+        dueRow(x, 0, 0, 1, 25, 0, 9);
+        dueRow(x, 0, 0, 2, Checks.match(1, -1, 0), 0, 8);
+        dueRow(x, 0, 0, 10, Checks.match(3, -1, 3), 0, 8);
     }
 
     private static void makingTooMany() {

@@ -143,6 +143,14 @@ public final class WishTest {
         fault("1\t", 1, 0);
         fault("1\u0000", 1, 0);
         fault("a=1 2", 4, 0);
+        fault("az=1", 0, 0);
+        WishWays x = new WishWays();
+        Checks.put(x, "at=10");
+        x.end(4);
+        due("only the tape counts, a digit less", x.wish(0), 0);
+        Checks.put(x, "at=1");
+        x.end(1);
+        due("only the tape counts, a letter less", x.wish(0), Checks.fault(1, 0));
     }
 
     private static void faultsOfMeasure() {
@@ -224,6 +232,17 @@ public final class WishTest {
         // A count through all packets, a step at a time.
         Checks.wish(x, 0, "(c=0;c:1+c=1;c:2+c=2;c:3+c=3;c:0;(b=0;b:1+b=1;b:2+b=2;b:3+b=3;b:0;"
                 + "(a=0;a:1+a=1;a:2+a=2;a:3+a=3;a:0;at=0;at:1)))*");
+        Checks.wish(x, 0, "(a:0+a:1);b:1");
+        due("all that s makes goes on", x.makes(4, 0, -1), 2);
+        due("the greater one, too", x.makes(4, 0, 1), 20);
+        Checks.wish(x, 0, "(at=0;b=0;c=0;(a=1;a:0+a=0;b:1))*");
+        due("by way of packet 0", x.makes(5, 16, -1), 3);
+        due("0", x.makes(5, 16, 0), 0);
+        due("and beyond", x.makes(5, 16, 1), 4);
+        for (int n = 6; n < 12; n++) {
+            Checks.wish(x, 0, "1");
+        }
+        due("wish 12", x.makes(12, 0, -1), -1);
         due("a long chain", x.makes(3, 0, -1), 128);
         due("its middle", x.makes(3, 60, -1), 68);
     }
@@ -259,9 +278,14 @@ public final class WishTest {
             due("equal", x.parts(0, 2, what), -1);
             due("itself", x.parts(1, 1, what), -1);
         }
+        Checks.wish(x, 0, "at=0;a=0;b=0;c=0");
+        Checks.wish(x, 0, "0");
+        due("at packet 0", x.parts(3, 4, 0), 0);
+        due("by packet 0", x.parts(3, 4, 1), 0);
+        due("which", x.parts(4, 3, 2), 1);
         due("what 3", x.parts(0, 1, 3), -2);
         due("what -1", x.parts(0, 0, -1), -2);
-        due("wish 3", x.parts(0, 3, 0), -2);
+        due("wish 5", x.parts(0, 5, 0), -2);
         due("wish -1", x.parts(-1, 0, 0), -2);
     }
 
@@ -273,8 +297,12 @@ public final class WishTest {
         due("within", x.within(0, 1), 1);
         due("not within", x.within(1, 0), 0);
         due("itself", x.within(1, 1), 1);
-        due("wish 2", x.within(0, 2), -1);
-        due("wish 2", x.within(2, 0), -1);
+        Checks.wish(x, 0, "at=0;a=0;b=0;c=0");
+        due("not by packet 0 alone", x.within(2, 0), 0);
+        Checks.wish(x, 0, "at=7;a=3;b=3;c=3");
+        due("not by the last packet alone", x.within(3, 0), 0);
+        due("wish 4", x.within(0, 4), -1);
+        due("wish 4", x.within(4, 0), -1);
     }
 
     private static void back(String text, String as) {
@@ -305,6 +333,8 @@ public final class WishTest {
             deep.insert(0, "a=0+(").append(")");
         }
         back(deep.toString(), deep.toString());
+        back("1" + ";1".repeat(39), "1" + ";1".repeat(39));
+        back("a=1" + "+a=1".repeat(39), "a=1" + "+a=1".repeat(39));
         WishWays x = new WishWays();
         Checks.wish(x, 0, "1");
         due("told", x.tell(0, false), 1);
