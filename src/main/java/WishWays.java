@@ -957,7 +957,9 @@ public final class WishWays {
             for (int start = 0; start < WORDS; start += PLACES) {
                 Arrays.fill(sum, 0);
                 for (int place = 0; place < PLACES; place++) {
-                    addRows(words[start + place], place, others);
+                    if (words[start + place] != 0) {
+                        addRows(words[start + place], place, others);
+                    }
                 }
                 System.arraycopy(sum, 0, words, start, PLACES);
             }
@@ -976,12 +978,9 @@ public final class WishWays {
 
         /** Adds all that is reached in any number of steps, none too. */
         void close(long[] words) {
-            Arrays.fill(sum, 0);
-            for (int i = 0; i < WORDS; i++) {
-                // Nobody goes on by a packet that only it makes itself.
-                sum[i % PLACES] |= words[i] & ~itself(i);
-            }
+            sumUpOthers(words);
             for (int by = 0; by < PACKETS; by++) {
+                // By a packet that none but itself makes nobody goes on.
                 if (((sum[by >> 6] >>> (by & 63)) & 1) != 0) {
                     goOnBy(words, by);
                 }
@@ -991,10 +990,16 @@ public final class WishWays {
             }
         }
 
-        /** The bit of the packet whose row a word stands in, if it is in that word. */
-        static long itself(int word) {
-            int packet = word / PLACES;
-            return packet >> 6 == word % PLACES ? 1L << (packet & 63) : 0;
+        /** All packets that are made of others. */
+        void sumUpOthers(long[] words) {
+            Arrays.fill(sum, 0);
+            for (int packet = 0; packet < PACKETS; packet++) {
+                int own = packet >> 6;
+                for (int place = 0; place < PLACES; place++) {
+                    long made = words[packet * PLACES + place];
+                    sum[place] |= place == own ? made & ~(1L << (packet & 63)) : made;
+                }
+            }
         }
 
         static void goOnBy(long[] words, int by) {
@@ -1558,7 +1563,7 @@ public final class WishWays {
         }
 
         /** Whether the boxes that are left can follow; the depth is how many were written. */
-        boolean leadsOn(int done, int all, int depth) {
+        private boolean leadsOn(int done, int all, int depth) {
             if (done == all || depth >= PLACES) {
                 return done == all;
             }
@@ -1829,6 +1834,8 @@ public final class WishWays {
     private static final class Ledger {
         final int[] room;
         final int[] left;
+        // What the wishes from each one on are worth together.
+        final int[] restValues;
         int chosen;
         int chosenValue;
         final int[] sent;
@@ -1837,6 +1844,7 @@ public final class WishWays {
         Ledger() {
             room = new int[PLACES];
             left = new int[PLACES];
+            restValues = new int[WISHES + 1];
             sent = new int[PLACES * PLACES];
             received = new int[PLACES * PLACES];
         }
@@ -1851,17 +1859,25 @@ public final class WishWays {
             chosen = 0;
             chosenValue = 0;
             System.arraycopy(room, 0, left, 0, PLACES);
-            chooseFrom(wishes, Math.min(size, wishes.length), 0, 0, 0);
+            Arrays.fill(restValues, 0);
+            for (int i = Math.min(size, WISHES) - 1; i >= 0; i--) {
+                restValues[i] = restValues[i + 1] + wishes[i].value;
+            }
+            chooseFrom(wishes, Math.min(size, WISHES), 0, 0, 0);
         }
 
         /** Goes on with the wish i; the depth is i, 12 at most. */
-        void chooseFrom(Wish[] wishes, int size, int i, int taken, int value) {
+        private void chooseFrom(Wish[] wishes, int size, int i, int taken, int value) {
             if (i >= size) {
                 consider(taken, value);
                 return;
             }
+            if (value + restValues[i] < chosenValue) {
+                return;
+            }
             Wish wish = wishes[i];
-            if (hasRoomFor(wish)) {
+            // A wish that is worth nothing only makes them more.
+            if (wish.value > 0 && hasRoomFor(wish)) {
                 changeRoom(wish, -1);
                 chooseFrom(wishes, size, i + 1, taken | 1 << i, value + wish.value);
                 changeRoom(wish, 1);
@@ -1953,7 +1969,7 @@ public final class WishWays {
             return outSize;
         }
 
-        void put(Tree tree, int root, int asked, int depth) {
+        private void put(Tree tree, int root, int asked, int depth) {
             if (depth > DEEPEST || root < 0) {
                 return;
             }
@@ -1976,7 +1992,7 @@ public final class WishWays {
             }
         }
 
-        void putBare(Tree tree, int node, int depth) {
+        private void putBare(Tree tree, int node, int depth) {
             int kind = tree.kinds[node];
             if (kind == Tree.EITHER) {
                 put(tree, tree.lefts[node], BY_EITHER, depth + 1);

@@ -186,17 +186,22 @@ public final class LedgerTest {
         due("nothing happened", x.edges(0), 3);
     }
 
-    private static void known() {
-        CHECKS.promise(37);
-        WishWays x = new WishWays();
-        due("no cables", x.known(0), 0);
-        due("none is there", x.known(1), -1);
+    /** A ring of three, a bridge behind it, and two cables between the same at its end. */
+    private static void layRings(WishWays x) {
         x.cable(0, 1);
         x.cable(1, 2);
         x.cable(2, 0);
         x.cable(2, 3);
         x.cable(3, 4);
         x.cable(4, 3);
+    }
+
+    private static void known() {
+        CHECKS.promise(37);
+        WishWays x = new WishWays();
+        due("no cables", x.known(0), 0);
+        due("none is there", x.known(1), -1);
+        layRings(x);
         due("only what lies on no ring", x.known(0), 8);
         due("two between the same", x.known(16), 8 + 16 + 32);
         due("a ring tapped", x.known(2), 8 + 7);
@@ -219,12 +224,7 @@ public final class LedgerTest {
         WishWays x = new WishWays();
         due("no cables", x.taps(0), 0);
         due("none is there", x.taps(1), -1);
-        x.cable(0, 1);
-        x.cable(1, 2);
-        x.cable(2, 0);
-        x.cable(2, 3);
-        x.cable(3, 4);
-        x.cable(4, 3);
+        layRings(x);
         due("none", x.taps(0), 0);
         due("a bridge", x.taps(8), 0);
         due("one of a ring, by the least of it", x.taps(4), 1);
