@@ -6,12 +6,37 @@ final class Checks {
     private int right = 0;
     private int wrong = 0;
     private String promise = "";
+    // Of the sentence that is being tested; ahead of the first sentence none is missed.
+    private int answers = 1;
 
     void promise(int number) {
         promise = "promise " + number;
     }
 
+    /** What follows tests one sentence of the document; each needs an answer of its own. */
+    void sentence(String words) {
+        closeSentence();
+        promise = words;
+        answers = 0;
+    }
+
+    private void closeSentence() {
+        if (answers == 0) {
+            wrong++;
+            System.out.println(promise + ": nothing is tested");
+        }
+    }
+
+    /** Something that has to be so, but is no answer. */
+    void known(String what, boolean isSo) {
+        if (!isSo) {
+            wrong++;
+            System.out.println(promise + ": not so: " + what);
+        }
+    }
+
     void due(String call, long got, long want) {
+        answers++;
         if (got == want) {
             right++;
         } else {
@@ -32,6 +57,7 @@ final class Checks {
     }
 
     void finish(String name) {
+        closeSentence();
         System.out.println(name + ": " + right + " answers as due, " + wrong + " not");
         System.exit(wrong == 0 ? 0 : 1);
     }
