@@ -140,11 +140,26 @@ final class EdgesOfBooks extends Edges {
         term("of several the fewest WISHES");
         y.worth(0, 0, 4);
         due("as much by one", y.kept(0), 1);
+        WishWays later = withWishes(3);
+        for (int i = 0; i < 3; i++) {
+            later.worth(0, i, i == 2 ? 4 : 2);
+            later.needs(i, 0, i == 2 ? 2 : 1);
+        }
+        later.worth(1, 0, 2);
+        due("as much by one that is told later", later.kept(0), 4);
         WishWays z = withWishes(4);
         due("those worth nothing are not kept", z.kept(0), 0);
         z.worth(0, 2, 1);
         due("but the one", z.kept(0), 4);
         term("then the least number (WISH i is bit i)");
+        WishWays inner = withWishes(4);
+        for (int i = 0; i < 4; i++) {
+            inner.worth(0, i, 1 + i);
+            inner.needs(i, 7, 1 + i);
+        }
+        inner.worth(1, 7, 5);
+        due("1 and 2, not 0 and 3", inner.kept(0), 6);
+        due("worth as much", inner.kept(1), 5);
         WishWays w = withWishes(12);
         for (int i = 0; i < 12; i++) {
             w.worth(0, i, 7);

@@ -63,6 +63,7 @@ final class EdgesOfRollouts extends Edges {
         }
         due("all eight", all.writes(), 8);
         due("by boxes", orderOf(all), "01234567");
+        due("each packet is in one box alone: any gap", all.gap(), 1);
         due("nothing is written by that", all.count(1), 0);
         says(24, "-2: no order is so.");
         WishWays y = torn();
@@ -204,6 +205,14 @@ final class EdgesOfRollouts extends Edges {
         due("all that come by the last line", all.worst(1), 448);
         due("7 to 8 is no line", all.falls(0), 8 * 6 + 7);
         due("by two no more", all.worst(2), 448);
+        due("so the least is the other", all.falls(0), 1);
+        for (int from = 0; from < 8; from++) {
+            for (int to = 0; to < 8; to++) {
+                if (from != to) {
+                    dueLine(from, to);
+                }
+            }
+        }
         says(26, "NONE without these (fewer such LINES, too).");
         refused("n", 1, 2, NONE, x::worst);
         due("no rows", new WishWays().worst(1), NONE);
@@ -219,6 +228,15 @@ final class EdgesOfRollouts extends Edges {
         due("a fallen one is none", y.worst(2), NONE);
         y.line(0, 7, true);
         due("none is left", y.worst(1), NONE);
+    }
+
+    private void dueLine(int from, int to) {
+        WishWays x = new WishWays();
+        x.row(0, from, 0, match(0, 0, 0), to);
+        x.row(0, to, 0, 0, 8);
+        x.entries(1 << from);
+        due("all by one line, to the first packet there", x.worst(1), 64);
+        due("that line", x.falls(0), 8 * from + to);
     }
 
     private void fallingTerms() {
@@ -239,6 +257,10 @@ final class EdgesOfRollouts extends Edges {
         y.entries(1 + 2);
         due("16 by 0-1, and the 64 of box 1 by 1-4", y.worst(1), 80);
         due("1-4", y.falls(0), 12);
+        y.entries(1 + 2 + 4);
+        due("both, with those that come by 0", y.worst(2), 160);
+        due("1-4", y.falls(0), 12);
+        due("2-4", y.falls(1), 20);
         y.entries(2);
         due("not those that do not come", y.worst(1), 64);
         y.entries(1);
@@ -256,6 +278,15 @@ final class EdgesOfRollouts extends Edges {
         z.row(0, 1, 0, 0, 2);
         z.row(0, 2, 0, 0, 1);
         due("in a loop none ends now", z.worst(1), 0);
+        WishWays twice = new WishWays();
+        twice.row(0, 0, 0, 0, 1);
+        twice.row(0, 1, match(ANY, ANY, 0), match(ANY, ANY, 1), 0);
+        twice.row(0, 1, 0, 0, 8);
+        twice.entries(1);
+        due("twice by one line is once lost", twice.worst(1), 64);
+        due("and with the line back as well", twice.worst(2), 64);
+        due("the lesser", twice.falls(0), 1);
+        due("the other, though nobody is lost by it alone", twice.falls(1), 8);
         term("; of several the least by numbers (8 * from + to, the lesser first).");
         due("the least", z.falls(0), 1);
         WishWays f = fork();
@@ -444,6 +475,13 @@ final class EdgesOfRollouts extends Edges {
         due("as in 999, box 3 old", y.neither(6, NONE), 0);
         y.write(3, 9);
         due("in 999 both are written: b = 1 alone is neither, unless c = 1 already", y.neither(6, NONE), 36);
+        WishWays first = new WishWays();
+        chain(first, 0, 0, 1);
+        first.row(1, 0, 0, 0, 8);
+        first.row(1, 1, 0, match(ANY, ANY, 1), 8);
+        first.entries(1);
+        first.write(1, 7);
+        due("as in 999, box 0 old", first.neither(6, NONE), 0);
         // END (III) knows no bound of steps.
         WishWays z = new WishWays();
         TableTest.countThroughAll(z, 0);
@@ -516,6 +554,9 @@ final class EdgesOfRollouts extends Edges {
         due("box 3 is not of the order, and stays old: lost is as it will be", late.gap(), 1);
         late.row(0, 3, 0, match(ANY, ANY, 3), 8);
         due("by its old rows it ends", late.gap(), 1);
+        gapsByTablesOfNow();
+        gapsForOne();
+        gapsOfLongWays();
         term("; what is told of TICKS counts nothing there.");
         WishWays x = new WishWays();
         chain(x, 0, 0, 1);
@@ -531,19 +572,92 @@ final class EdgesOfRollouts extends Edges {
         due("and it writes nothing", x.write(2, 0), 900);
     }
 
-    /** An old way through so many boxes behind 0, the last of which is cleared behind the turn of 0. */
+    private void gapsByTablesOfNow() {
+        WishWays x = new WishWays();
+        chain(x, 0, 0, 1);
+        chain(x, 1, 0, 2);
+        x.entries(1);
+        x.writes();
+        x.erase(0, 1);
+        x.row(0, 1, 0, match(ANY, ANY, 3), 8);
+        due("OLD rows that were told behind writes()", x.gap(), 1);
+        x.erase(1, 2);
+        x.row(1, 2, 0, match(3, ANY, ANY), 8);
+        due("NEW rows that were told behind writes()", x.gap(), 1);
+        // Box 0 is not of the order: its NEW rows count nothing.
+        WishWays y = new WishWays();
+        chain(y, 0, 0, 1);
+        y.row(1, 0, 0, 0, 1);
+        y.row(1, 1, 0, match(3, ANY, ANY), 8);
+        y.entries(1);
+        due("box 1 alone", y.writes(), 1);
+        y.erase(1, 0);
+        y.row(1, 0, 0, 0, 8);
+        due("box 0 stays old", y.gap(), 1);
+    }
+
+    private void gapsForOne() {
+        for (int told : new int[] {match(0, 0, 0), match(3, 3, 3), match(1, ANY, 2)}) {
+            due("for these packets alone, two ticks", turned(2, told), 2);
+            due("for these packets alone, four ticks", turned(4, told), 4);
+        }
+    }
+
+    /**
+     * Box 5 sends all to 6, and they go through 64 places there and, from these fields on, through the rest of those
+     * of 7. NEW it lets them leave; 0 is written ahead of it and has nothing to do with them.
+     */
+    private static int longWay(int fields, int entries) {
+        WishWays x = new WishWays();
+        for (int version = 0; version < 2; version++) {
+            TableTest.countThroughAll(x, version);
+            for (int box = 0; box < 6; box++) {
+                x.erase(version, box);
+            }
+            WishWays rows = new WishWays();
+            TableTest.countThroughAll(rows, 0);
+            x.erase(version, 6);
+            for (int k = 0; k < 9; k++) {
+                x.row(version, 6, rows.rows(0, 6, k, 0), rows.rows(0, 6, k, 1), 6);
+            }
+            x.row(version, 6, 124, match(fields / 16, fields / 4 % 4, fields % 4), 7);
+        }
+        x.row(0, 5, 0, match(0, 0, 0), 6);
+        x.row(1, 5, 0, 0, 8);
+        x.row(1, 0, 0, 0, 8);
+        x.entries(entries);
+        return x.writes() == 2 && orderOf(x).equals("05") ? x.gap() : -100;
+    }
+
+    private void gapsOfLongWays() {
+        due("99 steps, ahead of the last write", longWay(29, 32), 1);
+        due("100 steps", longWay(28, 32), -2);
+        due("101 steps", longWay(27, 32), -2);
+        due("99 steps, with all written", longWay(28, 64), 1);
+        due("100 steps", longWay(27, 64), -2);
+        due("101 steps", longWay(26, 64), -2);
+    }
+
     private static int turned(int between) {
+        return turned(between, 0);
+    }
+
+    /**
+     * An old way for packets of this match through so many boxes behind 0, the last of which is cleared behind the
+     * turn of 0.
+     */
+    private static int turned(int between, int told) {
         WishWays x = new WishWays();
         int at = 0;
         for (int i = 1; i < between; i++) {
-            x.row(0, at, 0, 0, 2 + i);
+            x.row(0, at, told, 0, 2 + i);
             at = 2 + i;
-            x.row(1, at, 0, 0, i + 1 < between ? 3 + i : 1);
+            x.row(1, at, told, 0, i + 1 < between ? 3 + i : 1);
         }
-        x.row(0, at, 0, 0, 1);
-        x.row(0, 1, 0, 0, 8);
-        x.row(1, 0, 0, 0, 2);
-        x.row(1, 2, 0, 0, 8);
+        x.row(0, at, told, 0, 1);
+        x.row(0, 1, told, 0, 8);
+        x.row(1, 0, told, 0, 2);
+        x.row(1, 2, told, 0, 8);
         x.entries(1);
         return x.writes() == 3 && orderOf(x).equals("201") ? x.gap() : -100;
     }

@@ -171,6 +171,23 @@ final class EdgesOfTables extends Edges {
         y.row(1, 5, 6, 0, 8);
         y.row(1, 5, 5, 0, 8);
         due("in another order", y.renew(), 1);
+        for (int n = 0; n < 12; n++) {
+            y.row(0, 6, n, n, 8);
+            y.row(1, 6, n, n, 8);
+        }
+        due("twelve rows alike", y.renew(), 0);
+        y.erase(1, 6);
+        y.row(1, 6, 0, 0, 8);
+        due("eleven fewer", y.renew(), 1);
+        due("alike, whatever was there before", y.count(5), 0);
+        y.row(1, 6, 100, 1, 7);
+        y.renew();
+        due("as it is written it goes", y.ends(384, 0), 384);
+        due("by its row", y.way(0), 16 * 6);
+        y.erase(1, 6);
+        y.renew();
+        due("without any", y.ends(384, 0), -2);
+        due("without any", y.way(0), -2);
     }
 
     private void lines() {
@@ -284,6 +301,10 @@ final class EdgesOfTables extends Edges {
         due("but not the others to 3", x.ends(192, 0), 192);
         x.line(2, 3, false);
         due("mended", x.ends(128, 0), 195);
+        x.row(0, 6, 0, 0, 0);
+        x.line(6, 0, true);
+        due("fallen to 0: packet 384 would be packet 0 there", x.ends(384, 0), -2);
+        due("and the others", x.ends(447, 0), -2);
         due("no line can fall to its own place", x.line(2, 2, true), false);
     }
 
@@ -292,6 +313,15 @@ final class EdgesOfTables extends Edges {
         WishWays x = new WishWays();
         x.row(0, 4, 0, 0, 4);
         due("to itself as it is", x.ends(256, 0), -3);
+        due("it went but once", x.way(1), NONE);
+        due("an odd one", x.ends(257, 0), -3);
+        due("it went but once", x.way(1), NONE);
+        x.row(0, 6, match(ANY, ANY, 0), match(ANY, ANY, 1), 6);
+        x.row(0, 6, match(ANY, ANY, 1), match(ANY, ANY, 2), 6);
+        x.row(0, 6, match(ANY, ANY, 2), match(ANY, ANY, 0), 6);
+        due("a ring of three at one place", x.ends(384, 0), -3);
+        due("it went three times", x.way(2), 16 * 6 + 2);
+        due("not four", x.way(3), NONE);
         x.row(0, 0, match(ANY, ANY, 0), match(ANY, ANY, 1), 1);
         x.row(0, 0, 0, 0, 8);
         x.row(0, 1, 0, 0, 0);
@@ -386,7 +416,14 @@ final class EdgesOfTables extends Edges {
         due("NEW elsewhere", x.shown(0, 126), NONE);
         WishWays y = with("at=7;a=3;b=3;c=3");
         due("packet 511", y.shown(0, 255), 511);
+        WishWays longest = with("at:7;a:0;b:0;c:0", "at:7;a:0;b:0;c:1");
+        TableTest.countThroughAll(longest, 0);
+        due("a way of 512 places", longest.shown(0, 0), NONE);
+        due("a way of 512 places", longest.shown(1, 0), 0);
         says(21, "NONE: it is shown");
+        WishWays zero = with("at=0;a:0;b:0;c:0");
+        zero.row(0, 0, 0, match(0, 0, 0), 8);
+        due("all end as packet 0", zero.shown(0, 0), NONE);
         due("none of all", with("0").shown(0, 0), NONE);
         x.entries(0);
         due("nobody comes", x.shown(1, 255), NONE);
@@ -459,6 +496,10 @@ final class EdgesOfTables extends Edges {
         due("one behind one that has all", packedOf(0, 0, 3, a0, 0, 4), 1);
         due("for the first packet alone", packedOf(one, 0, 3, 0, 0, 4), 3);
         due("for the last packet alone", packedOf(last, 0, 3, 0, 0, 4), 3);
+        due("the first packet is dealt with", packedOf(one, 0, 3), 1);
+        due("the last packet is dealt with", packedOf(last, 0, 3), 1);
+        due("for the first packet, and one too many", packedOf(one, 0, 3, 0, 0, 4, 0, 0, 4), 3);
+        due("for the last packet, and one too many", packedOf(last, 0, 3, 0, 0, 4, 0, 0, 4), 3);
         due("a guard ahead of one", packedOf(one, 0, 9, a0, 0, 3), 3);
         due("a guard, and one more than needed", packedOf(one, 0, 9, a0, 0, 3, 0, 0, 3), 5);
         due("four that have all between them", packedOf(25, 0, 3, 50, 0, 3, 75, 0, 3, 100, 0, 3), 15);
@@ -538,6 +579,7 @@ final class EdgesOfTables extends Edges {
         term("A ROW is RIGHT for a MATCH, if of all PACKETS that MATCH the WISH makes some, at one place, and each field of these is either as it was with all or one value with all");
         x = with("a=0;at:7+a=1;at:6+a=2;at:6+a=3;at:6", "!a=0", "a=0;c:1+!a=0;c:2", "(c=0;c:1+c=1;c:0+c=2+c=3)",
                 "b:1;a=0+!a=0");
+        makingForOne();
         due("two places", x.make(0, 0, 0), 4);
         dueRow(x, 0, 0, 25, 0, 7);
         dueRow(x, 0, 1, 50, 0, 6);
@@ -569,6 +611,25 @@ final class EdgesOfTables extends Edges {
         due("none of three in four", x.make(1, 0, 0), 4);
         dueRow(x, 0, 2, 3, 0, 9);
         dueRow(x, 0, 3, 4, 0, 8);
+    }
+
+    /** One packet, the first or the last, is unlike the 63 others: nine rows for these, the tenth for that one. */
+    private void makingForOne() {
+        for (int v = 0; v <= 3; v += 3) {
+            String others = ";(!a=" + v + "+!b=" + v + "+!c=" + v + ")";
+            String one = ";a=" + v + ";b=" + v + ";c=" + v;
+            WishWays x = with("1" + others, "at:7" + others, "1" + others + "+1" + one + ";at:7",
+                    "1" + others + "+1" + one + ";c:1", "0" + others + "+1" + one);
+            int[] sets = {0, 0, 0, 2, 0};
+            int[] to = {9, 9, 7, 8, 8};
+            for (int wish = 0; wish < 5; wish++) {
+                due("ten rows for wish " + wish, x.make(wish, 0, 3), 10);
+                dueRow(x, 3, 9, match(v, v, v), sets[wish], to[wish]);
+                due("what the others do", x.rows(0, 3, 0, 2), wish == 1 ? 7 : wish == 4 ? 9 : 8);
+            }
+            due("by its row", x.ends(192 + 21 * v, 0), 192 + 21 * v);
+            due("the tenth", x.way(0), 16 * 3 + 9);
+        }
     }
 
     private void makingOrder() {

@@ -122,7 +122,20 @@ final class EdgesOfTexts extends Edges {
         due("the tape is empty then, too", y.count(4), 0);
         due("it is no wish", y.count(0), 0);
         due("the next one is the first", Checks.wish(y, 0, "1"), 0);
+        readingAnew();
         wishingInVain(x);
+    }
+
+    /** What a text left open counts nothing in the next one. */
+    private void readingAnew() {
+        WishWays x = new WishWays();
+        String[] open = {"(1", "((((((((1;", "1+1;(1+1;(1+1;", FORTY + ";1", FORTY, "a=1;(b=1+c=1)*+", "((((((((("};
+        for (int n = 0; n < open.length; n++) {
+            due("left open", Checks.wish(x, 0, open[n]) < -2, n != 4);
+            due("too many )", Checks.wish(x, 0, "1)"), Checks.fault(1, 0));
+            due("a good one", Checks.wish(x, 0, "(a=1;b:2)"), n < 4 ? n : n + 1);
+            due("is as told", made(x, n < 4 ? n : n + 1, 16), "24");
+        }
     }
 
     private void wishingInVain(WishWays full) {
@@ -442,6 +455,7 @@ final class EdgesOfTexts extends Edges {
         makesOf("(a:0+a:3);(b:0+b:3)", 0, "0 12 48 60");
         makesOf("0;1", 0, "");
         makesOf("1;0", 0, "");
+        makesOf("(a:0+a:1);a:2", 0, "32");
         makesOf("a:3;a=3", 0, "48");
         makesOf("a=3;a:3", 0, "");
         again();
@@ -461,6 +475,18 @@ final class EdgesOfTexts extends Edges {
         // Steps that lead through 0 and 511, and a way of 512 packets by a step each.
         makesOf("(at=0;a=0;b=0;c=0;c:1+c=2;c:0)*", 2, "0 1 2");
         makesOf("(at=7;a=3;b=3;c=3;c:1+c=2;c:3)*", 510, "509 510 511");
+        // By a packet that two others make, that an odd one makes, and that one at another place makes.
+        makesOf("(b=0;(c=1;c:0+c=2;c:0+c=0;b:1))*", 1, "0 1 4");
+        makesOf("(b=0;(c=1;c:0+c=0;b:1))*", 1, "0 1 4");
+        for (int from = 0; from < 8; from++) {
+            makesOf("(at=" + from + ";(c=0;c:1+c=1;c:2))*", 64 * from, 64 * from + " " + (64 * from + 1) + " " + (64 * from + 2));
+            for (int to = 0; to < 8; to++) {
+                int[] all = {64 * from, 64 * to, 64 * to + 1};
+                java.util.Arrays.sort(all);
+                String want = from == to ? all[0] + " " + all[2] : all[0] + " " + all[1] + " " + all[2];
+                makesOf("(at=" + from + ";at:" + to + "+at=" + to + ";c=0;c:1)*", 64 * from, want);
+            }
+        }
         WishWays x = with("(c=0;c:1+c=1;c:2+c=2;c:3+c=3;c:0;(b=0;b:1+b=1;b:2+b=2;b:3+b=3;b:0;(a=0;a:1+a=1;a:2"
                 + "+a=2;a:3+a=3;a:0;!at=7)))*",
                 "((c:0+c:1+c:2+c:3);(b:0+b:1+b:2+b:3);(a:0+a:1+a:2+a:3))*;(at:0+at:1+at:2+at:3+at:4+at:5+at:6+at:7)");

@@ -19,6 +19,7 @@ final class EdgesOfWishes extends Edges {
         laws();
         lawsOfOneField();
         brackets();
+        tellingAgain();
         octets();
     }
 
@@ -353,6 +354,8 @@ final class EdgesOfWishes extends Edges {
         brief("0;0", "0");
         brief("(a=1+b=1)*;0", "0");
         term("0 *, 1 *: 1");
+        brief("0*+1", "1");
+        brief("1+1*", "1");
         brief("0*", "1");
         brief("1*", "1");
         brief("0**", "1");
@@ -404,6 +407,9 @@ final class EdgesOfWishes extends Edges {
         term("TOLD BACK: a tree as a text without blanks, with just those ( ) without which it would be read as another tree.");
         back("  a  =  1  +  ! at = 7 ; c : 0 *  ", "a=1+!at=7;c:0*");
         back("((((((((1))))))))", "1");
+        for (String forty : new String[] {"1" + ";1".repeat(39), "1" + "+1".repeat(39), "a=1" + ";b:2".repeat(39)}) {
+            back(forty, forty);
+        }
         back("(a=1)*", "a=1*");
         back("(a=1;b=1)+(c=1;1)", "a=1;b=1+c=1;1");
         back("(a=1+b=1);c=1", "(a=1+b=1);c=1");
@@ -414,6 +420,21 @@ final class EdgesOfWishes extends Edges {
         back("1+((a=1;b=1)*)", "1+(a=1;b=1)*");
         back("(1;(a=1+b=1)*)+0", "1;(a=1+b=1)*+0");
         back("1+(1;(".repeat(4) + "1+1" + ")".repeat(8), "1+1;(".repeat(4) + "1+1" + ")".repeat(4));
+    }
+
+    /** A tree told shorter leaves nothing behind for the next one. */
+    private void tellingAgain() {
+        term("SHORTER by LAWS, from the inner ones outwards, each as often as it can be");
+        String[] texts = new String[10];
+        for (int n = 0; n < texts.length; n++) {
+            texts[n] = "at=" + n % 8 + ";a=" + n % 4 + ";(b:" + n % 4 + "+c:" + n / 3 + ")*;a:" + n / 3 + "+!b=" + n % 4 + "*";
+        }
+        WishWays x = with(texts);
+        for (int n = 0; n < 30; n++) {
+            due("how many bytes", x.tell(n % 10, true), texts[n % 10].length());
+            due("the last but one", x.octet(texts[n % 10].length() - 2), '0' + n % 10 % 4);
+            due("the third", x.octet(3), '0' + n % 10 % 8);
+        }
     }
 
     private void octets() {
