@@ -1426,7 +1426,7 @@ public final class WishWays {
             if (deed >= PACKETS) {
                 return PACKETS + PLACE_SIZE * box + (deed & 63);
             }
-            if (deed >= 0 && (fallenLines & lineBit(box, deed >> 6)) != 0) {
+            if (deed >= 0 && ((fallenLines >>> (PLACES * box + (deed >> 6))) & 1) != 0) {
                 return LOST;
             }
             return deed;
@@ -1581,7 +1581,8 @@ public final class WishWays {
         }
 
         boolean isSafe(int boxes) {
-            int[] ends = network.endsBy(boxes);
+            int[] ends = network.scratchEnds;
+            network.fillEnds(boxes, ends);
             for (int packet = 0; packet < PACKETS; packet++) {
                 if (network.isEntry(packet) && isNeither(packet, ends[packet])) {
                     return false;

@@ -114,6 +114,7 @@ final class EdgesOfRollouts extends Edges {
         loop.entries(8);
         due("3 goes by 0 1, or to 2: not into the loop, not lost", loop.writes(), 3);
         due("so", orderOf(loop), "231");
+        lostIsNoLoop();
         term(": the first by BOXES.");
         x.entries(0);
         x.writes();
@@ -129,6 +130,23 @@ final class EdgesOfRollouts extends Edges {
         one.entries(1);
         due("one packet alone", one.writes(), 3);
         due("so", orderOf(one), "302");
+    }
+
+    private void lostIsNoLoop() {
+        WishWays lost = new WishWays();
+        lost.row(0, 1, 0, 0, 0);
+        lost.row(1, 1, 0, 0, 8);
+        lost.row(1, 0, 0, 0, 1);
+        lost.entries(2);
+        due("lost, then it ends", lost.writes(), 2);
+        due("with 0 written first it would be in a loop", orderOf(lost), "10");
+        WishWays looped = new WishWays();
+        looped.row(0, 1, 0, 0, 0);
+        looped.row(0, 0, 0, 0, 1);
+        looped.row(1, 1, 0, 0, 8);
+        looped.entries(2);
+        due("in a loop, then it ends", looped.writes(), 2);
+        due("with 0 written first it would be lost", orderOf(looped), "10");
     }
 
     /** A packet goes through 0, 1 and 2 and ends with a = 0, but not if 0 and just one of 1 and 2 are written. */
@@ -314,6 +332,7 @@ final class EdgesOfRollouts extends Edges {
         x.erase(0, 2);
         due("no line", x.worst(1), NONE);
         due("it stays", x.falls(0), 1);
+        due("both of it", x.falls(1), 2);
         WishWays y = new WishWays();
         y.row(0, 7, 0, 0, 6);
         due("0 is a number", y.worst(1), 0);
@@ -482,6 +501,7 @@ final class EdgesOfRollouts extends Edges {
         first.entries(1);
         first.write(1, 7);
         due("as in 999, box 0 old", first.neither(6, NONE), 0);
+        neitherInLoops();
         // END (III) knows no bound of steps.
         WishWays z = new WishWays();
         TableTest.countThroughAll(z, 0);
@@ -489,6 +509,35 @@ final class EdgesOfRollouts extends Edges {
         due("seen in a loop, but it ends", z.neither(0, NONE), 28);
         due("the least", z.neither(0, 0), 384);
         due("the greatest", z.neither(0, 27), 411);
+    }
+
+    private void neitherInLoops() {
+        WishWays x = new WishWays();
+        x.row(0, 3, 0, 0, 3);
+        x.entries(8);
+        due("in a loop, as by all OLD", x.neither(0, NONE), 0);
+        x.row(1, 3, 0, 0, 8);
+        x.write(3, 200);
+        due("in a loop, as by all OLD", x.neither(100, NONE), 0);
+        due("ends, as in 999", x.neither(101, NONE), 0);
+        WishWays y = new WishWays();
+        y.row(0, 3, 0, 0, 8);
+        y.row(1, 3, 0, 0, 3);
+        y.entries(8);
+        y.write(3, 5);
+        due("ends, as by all OLD", y.neither(4, NONE), 0);
+        due("in a loop, as in 999", y.neither(5, NONE), 0);
+        // OLD it is lost at 4; in 999 it ends at 3; between them 3 and 4 send it to and fro.
+        WishWays z = new WishWays();
+        z.row(0, 3, 0, 0, 4);
+        z.row(1, 3, 0, 0, 8);
+        z.row(1, 4, 0, 0, 3);
+        z.entries(8);
+        z.write(4, 0);
+        z.write(3, 900);
+        due("in a loop, but lost by all OLD", z.neither(0, NONE), 64);
+        z.write(4, NONE);
+        due("lost, as by all OLD", z.neither(0, NONE), 0);
     }
 
     // ---- promise 44
@@ -555,6 +604,7 @@ final class EdgesOfRollouts extends Edges {
         late.row(0, 3, 0, match(ANY, ANY, 3), 8);
         due("by its old rows it ends", late.gap(), 1);
         gapsByTablesOfNow();
+        gapsInLoops();
         gapsForOne();
         gapsOfLongWays();
         term("; what is told of TICKS counts nothing there.");
@@ -594,6 +644,32 @@ final class EdgesOfRollouts extends Edges {
         y.erase(1, 0);
         y.row(1, 0, 0, 0, 8);
         due("box 0 stays old", y.gap(), 1);
+        for (int other : new int[] {0, 7}) {
+            WishWays z = new WishWays();
+            chain(z, 0, other, 1);
+            chain(z, 1, other, 1, 2);
+            z.entries(1 << other);
+            due("boxes 1 and 2", z.writes(), 2);
+            due("so", orderOf(z), "21");
+            z.erase(1, other);
+            z.row(1, other, 0, 0, 8);
+            due("box " + other + " stays old", z.gap(), 1);
+        }
+    }
+
+    private void gapsInLoops() {
+        WishWays x = new WishWays();
+        x.row(0, 1, 0, 0, 8);
+        x.row(1, 1, 0, 0, 1);
+        x.entries(2);
+        due("into a loop", x.writes(), 1);
+        due("in a loop, as it is in 999", x.gap(), 1);
+        WishWays y = new WishWays();
+        y.row(0, 1, 0, 0, 1);
+        y.row(1, 1, 0, 0, 8);
+        y.entries(2);
+        due("out of a loop", y.writes(), 1);
+        due("ends, as it does in 999", y.gap(), 1);
     }
 
     private void gapsForOne() {

@@ -513,6 +513,13 @@ final class EdgesOfTables extends Edges {
         due("to 9 with fields set", packedOf(0, 124, 9), 0);
         due("to 9, set in two ways", packedOf(a0, 124, 9, 0, 31, 9), 0);
         due("to 9 behind others", packedOf(a0, 0, 3, 0, 1, 9), 1);
+        WishWays again = new WishWays();
+        again.row(1, 4, 0, 0, 5);
+        again.erase(1, 4);
+        again.row(1, 4, a0, 0, 3);
+        again.row(1, 4, a0, 0, 3);
+        again.row(1, 4, 0, 0, 9);
+        due("without a row in a table that had some", again.packed(1, 4), 1);
         term("of several the least number (ROW i is bit i)");
         due("two alike", packedOf(a0, 0, 3, a0, 0, 3), 1);
         due("of as many the least", packedOf(25, 0, 3, 50, 0, 3, 25, 0, 3, 50, 0, 3), 3);
@@ -604,6 +611,11 @@ final class EdgesOfTables extends Edges {
         dueRow(x, 3, 1, 50, 25, 7);
         due("7 is its own", x.make(0, 0, 7), 1);
         dueRow(x, 7, 0, 0, 25, 8);
+        x = with("at:0", "at=3;at:0;a=2+at=3;at:7;!a=2");
+        due("all to place 0 as they are", x.make(0, 0, 3), 1);
+        dueRow(x, 3, 0, 0, 0, 0);
+        due("some to place 0 as they are", x.make(1, 0, 3), 4);
+        dueRow(x, 3, 2, 75, 0, 0);
         term("A MATCH is RIGHT, too, if it makes none of all: SETS 0, TO 9.");
         x = with("0", "c=3");
         due("none of all", x.make(0, 0, 0), 1);
@@ -629,6 +641,9 @@ final class EdgesOfTables extends Edges {
             }
             due("by its row", x.ends(192 + 21 * v, 0), 192 + 21 * v);
             due("the tenth", x.way(0), 16 * 3 + 9);
+            WishWays y = with("1" + others + ";a:3;b:3;c:3;at:7");
+            due("all others as packet 511, of one none", y.make(0, 0, 3), 10);
+            dueRow(y, 3, 9, match(v, v, v), 0, 9);
         }
     }
 

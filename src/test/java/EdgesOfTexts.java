@@ -136,6 +136,13 @@ final class EdgesOfTexts extends Edges {
             due("a good one", Checks.wish(x, 0, "(a=1;b:2)"), n < 4 ? n : n + 1);
             due("is as told", made(x, n < 4 ? n : n + 1, 16), "24");
         }
+        WishWays y = new WishWays();
+        for (int n = 0; n < 60; n++) {
+            due("left open", Checks.wish(y, 0, "0+1;(0+1;(0+1;("), Checks.fault(15, 0));
+        }
+        due("a good one", Checks.wish(y, 0, "b:1+(b:2+(b:3;(c:1+c:2)))"), 0);
+        due("is as told", made(y, 0, 0), "4 8 13 14");
+        due("told back", Checks.told(y, 0, false), "b:1+(b:2+b:3;(c:1+c:2))");
     }
 
     private void wishingInVain(WishWays full) {

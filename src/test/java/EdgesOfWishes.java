@@ -435,6 +435,21 @@ final class EdgesOfWishes extends Edges {
             due("the last but one", x.octet(texts[n % 10].length() - 2), '0' + n % 10 % 4);
             due("the third", x.octet(3), '0' + n % 10 % 8);
         }
+        // More trees than one text can have, told by one object one behind the other.
+        WishWays y = new WishWays();
+        for (int n = 0; n < 12; n++) {
+            Checks.wish(y, 0, longText(n));
+        }
+        for (int n = 0; n < 12; n++) {
+            due("how many bytes", y.tell(n, true), longText(n).length());
+            for (int i = 0; i < 9; i++) {
+                due("byte " + i, y.octet(i), longText(n).charAt(i));
+            }
+        }
+    }
+
+    private static String longText(int n) {
+        return "at=" + n % 8 + ";a=" + n / 8 + ";b:1;c:1".repeat(19);
     }
 
     private void octets() {
