@@ -253,7 +253,7 @@ public final class WishWays {
         if (table == null || !upTo(match, PATTERNS - 1) || !upTo(sets, PATTERNS - 1) || !upTo(to, DROPS)) {
             return NONE;
         }
-        return table.add(match, sets, to);
+        return table.addRow(match, sets, to);
     }
 
     public int erase(int version, int box) {
@@ -1125,7 +1125,7 @@ public final class WishWays {
             Arrays.fill(deeds, LOST);
         }
 
-        int add(int match, int change, int target) {
+        int addRow(int match, int change, int target) {
             if (size >= ROWS) {
                 return NONE;
             }
@@ -1281,7 +1281,7 @@ public final class WishWays {
                     long matching = howManyTold(match) == told ? packetsOf(match) & uncovered : 0;
                     int deed = matching == 0 ? UNRIGHT : rightRow(match, outcomes, box);
                     if (deed != UNRIGHT) {
-                        if (add(match, deed / 16, deed % 16) == NONE) {
+                        if (addRow(match, deed / 16, deed % 16) == NONE) {
                             return false;
                         }
                         uncovered &= ~matching;

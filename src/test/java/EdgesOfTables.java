@@ -518,8 +518,9 @@ final class EdgesOfTables extends Edges {
         again.erase(1, 4);
         again.row(1, 4, a0, 0, 3);
         again.row(1, 4, a0, 0, 3);
-        again.row(1, 4, 0, 0, 9);
         due("without a row in a table that had some", again.packed(1, 4), 1);
+        again.row(1, 4, 0, 0, 9);
+        due("and with one to 9", again.packed(1, 4), 1);
         term("of several the least number (ROW i is bit i)");
         due("two alike", packedOf(a0, 0, 3, a0, 0, 3), 1);
         due("of as many the least", packedOf(25, 0, 3, 50, 0, 3, 25, 0, 3, 50, 0, 3), 3);

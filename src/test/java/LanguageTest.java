@@ -6,7 +6,9 @@ import java.nio.file.Files;
 import java.nio.file.Path;
 import java.util.Arrays;
 import java.util.List;
+import java.util.Map;
 import java.util.Set;
+import java.util.TreeMap;
 import java.util.TreeSet;
 import java.util.regex.Matcher;
 import java.util.regex.Pattern;
@@ -34,6 +36,7 @@ public final class LanguageTest {
         names();
         words(bare(source));
         lengths(source);
+        depths(source);
         CHECKS.finish("LanguageTest");
     }
 
@@ -137,6 +140,41 @@ public final class LanguageTest {
             CHECKS.due("rule 9, a bound in " + loop.group(), hasBound, true);
         }
         CHECKS.due("characters", code.chars().allMatch(c -> c < 128), true);
+    }
+
+    /** Methods of one name count as one, which can only make the deepest way deeper. */
+    private static void depths(String source) {
+        Map<String, Set<String>> called = new TreeMap<>();
+        Pattern head = Pattern.compile("^ +(?:[\\w\\[\\]]+ )*(\\w+)\\([^;]*\\) \\{$");
+        String open = "";
+        for (String line : bare(source).split("\n")) {
+            Matcher m = head.matcher(line);
+            if (m.matches()) {
+                open = m.group(1);
+                called.putIfAbsent(open, new TreeSet<>());
+                continue;
+            }
+            Matcher call = Pattern.compile("(\\w+)\\(").matcher(line);
+            while (!open.isEmpty() && call.find()) {
+                called.get(open).add(call.group(1));
+            }
+        }
+        CHECKS.due("rule 11, methods are found", called.size() > 100, true);
+        for (String name : called.keySet()) {
+            CHECKS.due("rule 11, calls below " + name, deepest(name, called, new TreeSet<>()) <= 8, true);
+        }
+    }
+
+    private static int deepest(String name, Map<String, Set<String>> called, Set<String> open) {
+        if (!called.containsKey(name) || !open.add(name)) {
+            return 0;
+        }
+        int below = 0;
+        for (String next : called.get(name)) {
+            below = Math.max(below, deepest(next, called, open));
+        }
+        open.remove(name);
+        return below + 1;
     }
 
     private static void lengths(String source) {
