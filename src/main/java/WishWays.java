@@ -1554,7 +1554,7 @@ public final class WishWays {
             network.fillEnds(0, oldEnds);
             network.fillEnds(ALL_PLACES, newEnds);
             Arrays.fill(dead, 0);
-            if (!leadsOn(0, unlike, 0)) {
+            if (!leadsOn(this, 0, unlike, 0)) {
                 return NO_ORDER;
             }
             orderSize = Integer.bitCount(unlike);
@@ -1563,18 +1563,18 @@ public final class WishWays {
         }
 
         /** Whether the boxes that are left can follow; the depth is how many were written. */
-        private boolean leadsOn(int done, int all, int depth) {
+        private static boolean leadsOn(Rollout rollout, int done, int all, int depth) {
             if (done == all || depth >= PLACES) {
                 return done == all;
             }
             for (int box = 0; box < PLACES; box++) {
                 int next = done | 1 << box;
-                if (hasBit(all & ~done, box) && dead[next] == 0) {
-                    trial[depth] = box;
-                    if (isSafe(next) && leadsOn(next, all, depth + 1)) {
+                if (hasBit(all & ~done, box) && rollout.dead[next] == 0) {
+                    rollout.trial[depth] = box;
+                    if (rollout.isSafe(next) && leadsOn(rollout, next, all, depth + 1)) {
                         return true;
                     }
-                    dead[next] = 1;
+                    rollout.dead[next] = 1;
                 }
             }
             return false;
@@ -1834,9 +1834,6 @@ public final class WishWays {
     /** Rows that boxes have room for, and counts that boxes tell. */
     private static final class Ledger {
         final int[] room;
-        final int[] left;
-        // What the wishes from each one on are worth together.
-        final int[] restValues;
         int chosen;
         int chosenValue;
         final int[] sent;
@@ -1844,8 +1841,6 @@ public final class WishWays {
 
         Ledger() {
             room = new int[PLACES];
-            left = new int[PLACES];
-            restValues = new int[WISHES + 1];
             sent = new int[PLACES * PLACES];
             received = new int[PLACES * PLACES];
         }
@@ -1856,58 +1851,39 @@ public final class WishWays {
             return was;
         }
 
+        /** Tries all sets; as their numbers rise, the first one of several that are as good is the least. */
         void choose(Wish[] wishes, int size) {
             chosen = 0;
             chosenValue = 0;
-            System.arraycopy(room, 0, left, 0, PLACES);
-            Arrays.fill(restValues, 0);
-            for (int i = Math.min(size, WISHES) - 1; i >= 0; i--) {
-                restValues[i] = restValues[i + 1] + wishes[i].value;
+            for (int some = 1; some < 1 << Math.min(size, WISHES); some++) {
+                int value = valueTogether(wishes, some);
+                boolean fewer = Integer.bitCount(some) < Integer.bitCount(chosen);
+                if ((value > chosenValue || value == chosenValue && fewer) && hasRoomFor(wishes, some)) {
+                    chosen = some;
+                    chosenValue = value;
+                }
             }
-            chooseFrom(wishes, Math.min(size, WISHES), 0, 0, 0);
         }
 
-        /** Goes on with the wish i; the depth is i, 12 at most. */
-        private void chooseFrom(Wish[] wishes, int size, int i, int taken, int value) {
-            if (i >= size) {
-                consider(taken, value);
-                return;
+        static int valueTogether(Wish[] wishes, int some) {
+            int value = 0;
+            for (int i = 0; i < WISHES; i++) {
+                value += hasBit(some, i) ? wishes[i].value : 0;
             }
-            if (value + restValues[i] < chosenValue) {
-                return;
-            }
-            Wish wish = wishes[i];
-            // A wish that is worth nothing only makes them more.
-            if (wish.value > 0 && hasRoomFor(wish)) {
-                changeRoom(wish, -1);
-                chooseFrom(wishes, size, i + 1, taken | 1 << i, value + wish.value);
-                changeRoom(wish, 1);
-            }
-            chooseFrom(wishes, size, i + 1, taken, value);
+            return value;
         }
 
-        boolean hasRoomFor(Wish wish) {
+        boolean hasRoomFor(Wish[] wishes, int some) {
             for (int box = 0; box < PLACES; box++) {
-                if (wish.rowsNeeded[box] > left[box]) {
+                int rows = 0;
+                for (int i = 0; i < WISHES; i++) {
+                    rows += hasBit(some, i) ? wishes[i].rowsNeeded[box] : 0;
+                }
+                if (rows > room[box]) {
                     return false;
                 }
             }
             return true;
-        }
-
-        void changeRoom(Wish wish, int sign) {
-            for (int box = 0; box < PLACES; box++) {
-                left[box] += sign * wish.rowsNeeded[box];
-            }
-        }
-
-        void consider(int taken, int value) {
-            int fewer = Integer.bitCount(chosen) - Integer.bitCount(taken);
-            if (value > chosenValue
-                    || value == chosenValue && (fewer > 0 || fewer == 0 && taken < chosen)) {
-                chosen = taken;
-                chosenValue = value;
-            }
         }
 
         int tellCount(int from, int to, boolean got, int n) {
