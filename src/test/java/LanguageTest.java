@@ -145,6 +145,7 @@ public final class LanguageTest {
     /** Methods of one name count as one, which can only make the deepest way deeper. */
     private static void depths(String source) {
         Map<String, Set<String>> called = new TreeMap<>();
+        Map<String, String> heads = new TreeMap<>();
         Pattern head = Pattern.compile("^ +(?:[\\w\\[\\]]+ )*(\\w+)\\([^;]*\\) \\{$");
         String open = "";
         for (String line : bare(source).split("\n")) {
@@ -152,6 +153,7 @@ public final class LanguageTest {
             if (m.matches()) {
                 open = m.group(1);
                 called.putIfAbsent(open, new TreeSet<>());
+                heads.put(open, line.trim());
                 continue;
             }
             Matcher call = Pattern.compile("(\\w+)\\(").matcher(line);
@@ -162,7 +164,21 @@ public final class LanguageTest {
         CHECKS.due("rule 11, methods are found", called.size() > 100, true);
         for (String name : called.keySet()) {
             CHECKS.due("rule 11, calls below " + name, deepest(name, called, new TreeSet<>()) <= 8, true);
+            if (called.get(name).contains(name)) {
+                CHECKS.due("rule 8, " + name + " calls itself", heads.get(name).startsWith("private static"), true);
+            } else if (reaches(name, name, called, new TreeSet<>())) {
+                CHECKS.due("rule 8, " + name + " comes back", heads.get(name).startsWith("private"), true);
+            }
         }
+    }
+
+    private static boolean reaches(String from, String to, Map<String, Set<String>> called, Set<String> met) {
+        for (String next : called.getOrDefault(from, Set.of())) {
+            if (next.equals(to) || met.add(next) && reaches(next, to, called, met)) {
+                return true;
+            }
+        }
+        return false;
     }
 
     private static int deepest(String name, Map<String, Set<String>> called, Set<String> open) {

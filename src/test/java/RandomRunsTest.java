@@ -307,8 +307,19 @@ public final class RandomRunsTest {
 
     // ---- writing over
 
-    /** A chain of boxes in some order, with a box that sends a packet away now and then. */
-    private void aChain(int version, int told, int set) throws Exception {
+    /** Counts c up first, a step each, so that packets stay in a box for a while. */
+    private void aDelay(int version, int box) throws Exception {
+        int steps = 1 + below(5);
+        for (int v = 0; v < Math.min(steps, 3); v++) {
+            call("row", version, box, 1 + v, 2 + v, box);
+        }
+        for (int v = 0; v < steps - 3; v++) {
+            call("row", version, box, 5 * (1 + v) + 4, 5 * (2 + v) + 1, box);
+        }
+    }
+
+    /** A chain of boxes in some order, with a box that sends a packet away or holds it up now and then. */
+    private void aChain(int version, int told, int set, int slow) throws Exception {
         List<Integer> chain = new ArrayList<>();
         for (int box = 1; box < boxes; box++) {
             chain.add(box);
@@ -319,6 +330,9 @@ public final class RandomRunsTest {
         for (int i = 0; i < length; i++) {
             if (chance(told)) {
                 call("row", version, at, aPattern(40), aPattern(set), chance(50) ? 8 : chain.get(below(chain.size())));
+            }
+            if (chance(slow)) {
+                aDelay(version, at);
             }
             call("row", version, at, 0, chance(set) ? aPattern(30) : 0, chain.get(i));
             at = chain.get(i);
@@ -334,8 +348,9 @@ public final class RandomRunsTest {
             aCounter(below(2), 0, 1);
             aCounter(below(2), 1, 8);
         }
-        aChain(0, told, set);
-        aChain(1, told, set);
+        int slow = chance(60) ? 0 : 20 + below(50);
+        aChain(0, told, set, slow);
+        aChain(1, told, set, slow);
         call("entries", chance(70) ? 1 + below(3) : some(256));
         while (calls < 160) {
             switch (below(12)) {
